@@ -581,8 +581,11 @@ public final class PromisesTest {
     private static void growths() {
         String[] texts = {"", "letter x;", "letter x;law x x x;", XY, XY + "law x x;", XY + "law x y;", XY + "law x;", OUTER,
             XYZ + "law y x - x y;law z x - x z;law z y - y z;", XY + "law x x;law y y;", XY + "law x y x;law y y;", XYZ + "to 1;law x;",
-            XYZW + "law y x;law z x;law w x;law z y;law w y;law w z;", XY + "law x x;law x y;", XY + "law x y x;law x y y;"};
-        int[] growths = {0, 1, 0, -2, -2, 2, 1, 0, 3, 1, 1, -2, 4, 1, 2};
+            XYZW + "law y x;law z x;law w x;law z y;law w y;law w z;", XY + "law x x;law x y;", XY + "law x y x;law x y y;",
+            // Places of four of three letters, up to zzzz: number 80.
+            XYZ + "law x;law y y;law z y;law y z z z z;", XYZ + "law x z;law x y;law z y;law y y;law y z z z z;",
+            XYZ + "law z x;law x y;law z y;law y y;law y x;law y z z z z;", XYZ + "law x;law y z z z z;", XYZ + "law x;law y;law z z z z z;"};
+        int[] growths = {0, 1, 0, -2, -2, 2, 1, 0, 3, 1, 1, -2, 4, 1, 2, 1, 2, 2, -2, 0};
         for (int i = 0; i < texts.length; i++) {
             WordAlgebra x = told(texts[i]);
             due("growth of " + texts[i], x.growth(), growths[i]);
@@ -741,9 +744,10 @@ public final class PromisesTest {
     private static void points() {
         String[] texts = {"", "letter x;", "prime 5;" + XY + "law x x - y y;", XY + "law x y - y x;", "prime 17;" + XYZW, "prime 19;" + XYZW,
             "prime 43;" + XYZ + "law x y;", "prime 47;" + XYZ, "prime 2;" + XYZ + "law x x + y z;", "prime 7;letter x;law 3 x x x;",
-            "prime 3;" + XY + "law x x + y y;", "prime 5;" + XY + "law x x + y y;law x y - y x;law x x y;", OUTER};
-        // x y = 0 with z free: (2 * 43 - 1) * 43.
-        int[] points = {1, 97, 9, 9409, 83521, -2, 3655, -2, 4, 1, 1, 1, -2};
+            "prime 3;" + XY + "law x x + y y;", "prime 5;" + XY + "law x x + y y;law x y - y x;law x x y;", OUTER,
+            "prime 17;" + XYZW + "law (x + y + z + w)(x + 2 y + 3 z - w)(x + y + z + w)(x + 2 y + 3 z - w);".repeat(8)};
+        // x y = 0 with z free: (2 * 43 - 1) * 43; one of two sums is 0: 2 * 17^3 - 17^2.
+        int[] points = {1, 97, 9, 9409, 83521, -2, 3655, -2, 4, 1, 1, 1, -2, 9537};
         for (int i = 0; i < texts.length; i++) {
             WordAlgebra x = told(texts[i]);
             due("points of " + texts[i], x.points(), points[i]);
@@ -753,12 +757,13 @@ public final class PromisesTest {
 
     /** Promise 32. */
     private static void modules() {
+        String dense = "law (x + y + z + w)(x + y + z + w)(x + y + z + w)(x + y + z + w);";
         String[] texts = {"", "prime 13;letter x;", "prime 17;letter x;", "prime 13;letter x;law x x;", "prime 13;letter x;law x;",
             "prime 5;letter x;law x x x x x x x;", "prime 2;" + XY + "law x y = y x;", "prime 3;" + XY + "law x y = y x;",
             "prime 5;" + XY, "prime 2;" + XYZ, "prime 2;" + XYZW, "prime 3;" + XYZ, "prime 3;" + XY + "law x;",
-            "prime 2;" + XYZW + "law x;law y;law z;", "prime 2;" + XY + "law x y;"};
-        // Pairs that commute: p^6 + p^5 - p^3; squares of which some power is 0: p^2.
-        int[] modules = {1, 28561, -2, 169, 1, 25, 88, 945, -2, 4096, 65536, -2, 81, 16, 58};
+            "prime 2;" + XYZW + "law x;law y;law z;", "prime 2;" + XY + "law x y;", "prime 2;" + XYZW + dense.repeat(8)};
+        // Pairs that commute: p^6 + p^5 - p^3; squares of which some power is 0: p^2, so many of all sums of four too.
+        int[] modules = {1, 28561, -2, 169, 1, 25, 88, 945, -2, 4096, 65536, -2, 81, 16, 58, 4 * 4096};
         for (int i = 0; i < texts.length; i++) {
             WordAlgebra x = told(texts[i]);
             due("modules of " + texts[i], x.modules(), modules[i]);

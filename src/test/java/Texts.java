@@ -40,8 +40,11 @@ final class Texts {
             degree = Math.max(1, Math.min(degree, longest));
         }
         int laws = letters == 0 ? 0 : random.nextInt(6) == 0 ? upTo(8) : upTo(3);
+        boolean wordsAlone = letters > 1 && random.nextInt(8) == 0;
+        laws = wordsAlone ? 3 + upTo(5) : laws;
         for (int i = 0; i < laws; i++) {
-            all.append("law ").append(law(letters, degree)).append(';').append(blank());
+            String law = wordsAlone ? word(letters, 1 + random.nextInt(degree)) : law(letters, degree);
+            all.append("law ").append(law).append(';').append(blank());
         }
         return all.toString();
     }
