@@ -11,6 +11,7 @@ public final class WordAlgebra {
     private static final int NOT_QUADRATIC = -3;
     private static final int UNKNOWN = -9;
     private static final long NO_SERIES = -9223372036854775807L;
+    private static final long MOST_TOLD = 9223372036854775807L;
 
     private static final int MOST_LETTERS = 4;
     private static final int MOST_LAWS = 8;
@@ -820,23 +821,29 @@ public final class WordAlgebra {
 
         /** Adds factor * a * b, all of them rows; what has more letters than the degree is left out. */
         void addProduct(int[] to, int[] a, int[] b, int factor) {
-            for (int u = 0; u < start[LONGEST + 1]; u++) {
+            int words = Math.min(wordsInAll(), Math.min(to.length, Math.min(a.length, b.length)));
+            for (int u = 0; u < words; u++) {
                 int c = rest(factor * a[u]);
-                int end = start[degree - lengths[u] + 1];
+                int end = Math.min(wordsUpTo(degree - lengths[u]), words);
                 for (int v = 0; c != 0 && v < end; v++) {
-                    if (b[v] != 0) {
-                        int at = indexOfBoth(u, v);
+                    int at = b[v] != 0 ? indexOfBoth(u, v) : NONE;
+                    if (at >= 0 && at < words) {
                         to[at] = rest(to[at] + c * b[v]);
                     }
                 }
             }
         }
 
-        /** Where one word with another one behind it stands; both together are no longer than the degree. */
+        /** How many words there are of no more than d letters. */
+        private int wordsUpTo(int d) {
+            return d >= 0 && d <= LONGEST ? start[d + 1] : 0;
+        }
+
+        /** Where one word with another one behind it stands; NONE if both together are longer than the degree. */
         private int indexOfBoth(int u, int v) {
             int i = lengths[u];
             int j = lengths[v];
-            return start[i + j] + (u - start[i]) * many[j] + v - start[j];
+            return i + j <= degree ? start[i + j] + (u - start[i]) * many[j] + v - start[j] : NONE;
         }
     }
 
@@ -1277,7 +1284,7 @@ public final class WordAlgebra {
                 int tail = shape.tailOf(w, d - 1);
                 int from = formStart[d - 1] + tail * shorter;
                 int to = formStart[d] + w * words + w - tail;
-                for (int k = 0; k <= tail; k++) {
+                for (int k = 0; k <= tail && to + k < FORMS; k++) {
                     forms[to + k] = forms[from + k];
                 }
                 leading[shape.startOf(d) + w] = leading[shape.startOf(d - 1) + tail];
@@ -1358,11 +1365,13 @@ public final class WordAlgebra {
         }
 
         private int formAt(int d, int of, int what) {
-            return forms[formStart[d] + of * shape.wordsOf(d) + what];
+            int at = formStart[d] + of * shape.wordsOf(d) + what;
+            return at >= 0 && at < FORMS ? forms[at] : 0;
         }
 
         private boolean leads(int d, int w) {
-            return leading[shape.startOf(d) + w] != 0;
+            int at = shape.startOf(d) + w;
+            return at >= 0 && at < ROW && leading[at] != 0;
         }
 
         private boolean leadsAnew(int d, int w) {
@@ -1580,7 +1589,7 @@ public final class WordAlgebra {
         }
 
         private static long addUpTo(long a, long b) {
-            return a > Long.MAX_VALUE - b ? Long.MAX_VALUE : a + b;
+            return a > MOST_TOLD - b ? MOST_TOLD : a + b;
         }
 
         int growthOfLeft() {
